@@ -292,6 +292,12 @@ public final class PromiseEdgesTest {
             due("the other use has none", x.law(1 - use, 9, 9, 9), 1);
             due("another", Edges.read(x, use, "1"), 1);
             due("in place of one ahead", x.law(use, 9, 9, 9), 1);
+            for (int i = 0; i < 20; i++) {
+                String text = (i % 2 == 0 ? "1" : "0") + "+0".repeat(24);
+                due("one of many", Edges.read(x, use, text), 1);
+                due("one of many", x.law(use, 9, 9, 9), 1 - i % 2);
+                due("and a fault between", Edges.read(x, use, text + "+"), -60);
+            }
         }
         says(13, "BEYOND (THE TAPE stays).");
         RaddleMarks y = new RaddleMarks();
@@ -866,7 +872,10 @@ public final class PromiseEdgesTest {
         y.image();
         spoil(y);
         y.seeker(0, 0);
-        y.sheep(0, 0, 0, 0);
+        y.sheep(69, 9, 99, 0);
+        y.sheep(69, 9, 99, 0);
+        y.change(0, 3, 1);
+        y.change(1, 3, 1);
         due("an image of a new object", y.restore(), 0);
         int[] counts = {0, 0, 0, 0, 0, 0, 0, 0, y.count(8), 1};
         for (int what = 0; what < 10; what++) {
@@ -874,6 +883,9 @@ public final class PromiseEdgesTest {
         }
         edges.dueAll("no texts", 1, y.law(0, 0, 0, 0), y.law(1, 0, 0, 0));
         due("a mark of seekers that there were", y.sheep(0, 0, 0, 1), BEYOND);
+        due("a new sheep", y.sheep(0, 0, 0, 0), 0);
+        due("another, where one was found", y.sheep(0, 0, 0, 0), 1);
+        due("none is found", y.count(4), 0);
     }
 
     private static void tell() {

@@ -46,6 +46,7 @@ public final class TermsEdgesTest {
         signsThatGoOn();
         signsThatGoOnInBrackets();
         endsTooEarly();
+        bindings();
         sums();
         uses();
         onlyThought();
@@ -576,6 +577,30 @@ public final class TermsEdgesTest {
         due("fifty but one", Edges.read(new RaddleMarks(), 0, "1+".repeat(24) + "("), -59);
     }
 
+    private static void bindings() {
+        says("T: A { | A }. A: B { & B }. B: S, or S < S, S = S, S > S. S: P { + P, - P }. P: Q { * Q, / Q, % Q }.");
+        due("& ahead of |", worth("4+(1|0&0)", 0, 0, 0), 5);
+        due("& ahead of |, on the left", worth("4+(0&0|1)", 0, 0, 0), 5);
+        due("= ahead of &", worth("4+(0=1&0)", 0, 0, 0), 4);
+        due("= ahead of &", worth("4+(2&1=1)", 0, 0, 0), 5);
+        due("= ahead of |", worth("4+(0=1|1)", 0, 0, 0), 5);
+        due("+ ahead of <", worth("1<1+1", 0, 0, 0), 1);
+        due("- ahead of >", worth("2-2>0", 0, 0, 0), 0);
+        due("* ahead of +", worth("1+2*3", 0, 0, 0), 7);
+        due("* ahead of -", worth("9-2*3", 0, 0, 0), 3);
+        due("/ ahead of +", worth("4+4/2", 0, 0, 0), 6);
+        due("% ahead of +", worth("4+5%3", 0, 0, 0), 6);
+        due("! ahead of *", worth("!0*5", 0, 0, 0), 5);
+        due("! ahead of =", worth("!2=0", 0, 0, 0), 1);
+        due("- by the left", worth("9-3-2", 0, 0, 0), 4);
+        due("- and + by the left", worth("9-3+2", 0, 0, 0), 8);
+        due("/ by the left", worth("60/3/2", 0, 0, 0), 10);
+        due("/ and * by the left", worth("60/3*2", 0, 0, 0), 40);
+        due("% and * by the left", worth("7%4*2", 0, 0, 0), 6);
+        due("many of |", worth("0|0|0|0|7", 0, 0, 0), 1);
+        due("many of &", worth("1&1&1&1&0", 0, 0, 0), 0);
+    }
+
     private static void sums() {
         says("Ints that wrap");
         due("the most and 1", worth("(c+1=s)*7", MAX, MIN, 0), 7);
@@ -779,6 +804,7 @@ public final class TermsEdgesTest {
         due("none more", diggers(25, 15, 8, 10, 10, 12).add(0, 1), 0);
         due("none more, though fewer would do", diggers(15, 12, 8, 10, 10, 12).add(0, 1), 0);
         due("all are in it", diggers(46, 15, 8, 10, 10, 12).add(0, 1), Edges.NONE);
+        due("a pot of one alone, and no other seeker is there", Edges.dig(0, 60, 1).add(0, 20), Edges.NONE);
     }
 
     private static void start() {
@@ -832,6 +858,14 @@ public final class TermsEdgesTest {
         x.change(1, 2, 0);
         x.change(0, 3, 1);
         due("one found now", x.missed(60, 1), 1);
+        for (int i = 2; i < 7; i++) {
+            x.sheep(0, 5, 99, 63);
+        }
+        for (int i = 0; i < 7; i++) {
+            x.change(i, 3, 1);
+        }
+        due("all seven found now", x.missed(0, 1), 7);
+        due("all seven found now", x.missed(60, 0), 0);
         RaddleMarks y = new RaddleMarks();
         y.seeker(0, 0);
         y.sheep(0, 0, 99, 1);
@@ -1012,6 +1046,13 @@ public final class TermsEdgesTest {
         for (int i = 0; i < 7; i++) {
             x.sheep(9, 0, 0, 0);
         }
+        int[][] values = {{11, 22, 2, 20}, {33, 66, 2, 64}, {11, 24, 2, 26}, {11, 22, -2, -24}, {33, 66, 2, 40},
+            {11, 26, 2, 24}, {11, 22, -8, 40}};
+        for (int i = 0; i < 28; i++) {
+            x.become(6, i / 4 * 10 + 3);
+            due("kind " + i / 4 + ", act " + i % 4, x.voice(6, i % 4, 5), values[i / 4][i % 4]);
+        }
+        x.become(6, 9);
         due("bleats of the most", x.voice(6, 0, MAX), MIN + 5);
         due("waits of the most", x.voice(0, 1, MAX), -2);
         due("waits of the least", x.voice(0, 1, MIN), 0);
