@@ -55,7 +55,9 @@ public final class TermsEdgesTest {
         addWithin();
         addFewest();
         start();
+        startWithinCells();
         missed();
+        missedThoughTwoFindLess();
         nobody();
         lies();
         order();
@@ -833,6 +835,25 @@ public final class TermsEdgesTest {
         edges.dueAll("beyond", Edges.BEYOND, x.start(0, -1, 0), x.start(0, 21, 0));
     }
 
+    /** One who came from beyond an end of the row would find the topp: a dig in the odd hour only brings more snow. */
+    private static void startWithinCells() {
+        says("the CELL AT which that one should be now");
+        for (int end = 0; end <= 9; end += 9) {
+            RaddleMarks x = Edges.atHour(1);
+            x.seeker(4, 45);
+            x.sheep(0, end == 0 ? 2 : 7, 99, 1);
+            x.sheep(50, end, 99, 1);
+            x.snow(end == 0 ? 2 : 7, 999);
+            x.snow(end, 50);
+            Edges.read(x, 0, end == 0 ? "(c=0)*(s<50)*99" : "(c=9)*(s<50)*99");
+            due("how many, by cell " + end, x.start(0, 2, 1), 0);
+            due("the cell, by cell " + end, x.start(0, 2, 0), 0);
+            x.change(0, 1, 0);
+            due("how many, where none is nearer", x.start(0, 2, 1), 1);
+            due("the cell, where none is nearer", x.start(0, 2, 0), end == 0 ? 1 : 8);
+        }
+    }
+
     private static void missed() {
         says("MISSED by n: the SEEKER without whom (in no MARK) fewest SHEEP are FOUND behind n HOURS; of several the least; "
             + "how many.");
@@ -872,6 +893,20 @@ public final class TermsEdgesTest {
         due("the only one", y.missed(60, 0), 0);
         due("the only one", y.missed(60, 1), 0);
         edges.dueAll("beyond", Edges.BEYOND, y.missed(-1, 0), y.missed(61, 0));
+    }
+
+    /** Both together dig so deep that more snow falls, and find nothing; either alone finds the topp. */
+    private static void missedThoughTwoFindLess() {
+        says("the SEEKER without whom (in no MARK) fewest SHEEP are FOUND behind n HOURS");
+        RaddleMarks x = Edges.atHour(1);
+        x.seeker(4, 40);
+        x.seeker(4, 40);
+        x.sheep(50, 4, 99, 3);
+        x.snow(4, 90);
+        Edges.read(x, 0, "(s<50)*99");
+        due("both", x.then(2, 0, 1), 0);
+        due("who", x.missed(2, 0), 0);
+        due("how many", x.missed(2, 1), 1);
     }
 
     private static void nobody() {
